@@ -1056,18 +1056,14 @@ public final class GrudgeTown {
             items[3] = fourth;
         }
 
-        /** Takes the clause's own letter and its items; what is no item of it is left to be read. */
+        /** Takes the clause's own letter and its items; what is none of it, or was there, is left to be read. */
         private void readItems(String letters, int[] least, int[] most) {
             in.take();
             int had = 0;
             for (int i = 0; i <= letters.length(); i++) {
                 int sign = in.next();
                 int item = sign == END ? NONE : letters.indexOf((char) sign);
-                if (item < 0) {
-                    return;
-                }
-                if ((had >> item & 1) == 1) {
-                    in.wrong();
+                if (item < 0 || (had >> item & 1) == 1) {
                     return;
                 }
                 had |= 1 << item;
@@ -1228,18 +1224,26 @@ public final class GrudgeTown {
 
         /** A sunset but for log, coins and day: whether anything is otherwise then. */
         boolean sunset(int fade) {
-            int going = leaving(fade);
-            boolean changed = going != 0;
+            int under = 0;
+            boolean changed = false;
             for (int i = 0; i < PLACES; i++) {
-                int left = weightBehindFading(i, fade);
-                changed = changed || left != weight[i];
-                weight[i] = left;
+                int before = weight[i];
+                if (before > 0) {
+                    int left = weightBehindFading(i, fade);
+                    weight[i] = left;
+                    changed = changed || left != before;
+                    if (left > 0 && isIn(holder[i])) {
+                        under |= 1 << against[i];
+                    }
+                }
             }
-            inTown &= ~going;
-            if (going != 0) {
-                passOnWilled(going);
+            int going = inTown & ~under;
+            if (going == 0) {
+                return changed;
             }
-            return changed;
+            inTown &= under;
+            passOnWilled(going);
+            return true;
         }
 
         private void passOnWilled(int gone) {

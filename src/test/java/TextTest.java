@@ -41,6 +41,11 @@ public final class TextTest {
         Check.due("P2 up to 240", x.feed(0, 0, 0x00010000, 0, 0), 240);
         Check.due("P2 nothing more", x.feed(0, 0, 0, 0, 0), 240);
         Check.due("P2 no more", x.feed(0, 0, 0, 0, 1), -1);
+        Check.due("P2 no more", x.feed(0, 0, 0, 1, 0), -1);
+        Check.due("P2 no more", x.feed(0, 0, 1, 0, 0), -1);
+        Check.due("P2 no more", x.feed(0, 1, 0, 0, 0), -1);
+        Check.due("P2 no more", x.feed(1, 0, 0, 0, 0), -1);
+        Check.due("P2 no more", x.feed(1, 1, 1, 1, 1), -1);
         Check.due("P3 above", x.end(241), false);
         Check.due("P3 below", x.end(-1), false);
         Check.due("P3 all of it", x.end(240), true);
@@ -264,6 +269,44 @@ public final class TextTest {
         for (int what = 0; what < 4; what++) {
             Check.due("P5 grudge(0, " + what + ")", x.grudge(0, what), grudge[what]);
         }
+        lessThanAhead();
+        longest();
+    }
+
+    /** Nothing of a town, or of a fault, that was read ahead is in the next one. */
+    private static void lessThanAhead() {
+        GrudgeTown x = Check.town("sf3k4;pt1l1;pt2l2;pt3l3;gw9k2;ga2w9k1;go1a0w9k2");
+        x.offends(0, 1);
+        Check.feed(x, "sf5k6;p;p;g;g;g;g;g;g;x");
+        Check.due("P5 a fault", x.text(0), -1);
+        Check.due("P5 the town is as it was", x.count(6), 4);
+        x.end(0);
+        Check.feed(x, "p;p;g");
+        Check.due("P5 two persons", x.text(0), 2);
+        Check.due("P5 fading without", x.rule(0), 1);
+        Check.due("P5 coins without", x.rule(1), 20);
+        Check.due("P5 one grudge", x.count(6), 1);
+        Check.due("P5 one told", x.count(1), 1);
+        Check.due("P5 its kind", x.grudge(0, 3), 0);
+        Check.due("P5 its weight", x.grudge(0, 2), 6);
+        Check.due("P5 all in town", x.most(5), 3);
+        Check.dueThrows("P5 no third one", x, 2, 0);
+        Check.feed(x, "p;p;p;p;p");
+        Check.due("P5 five persons", x.text(0), 5);
+        Check.due("P5 no grudge", x.count(6), 0);
+        Check.due("P5 all in town", x.most(5), 31);
+    }
+
+    /** Texts that fill the tape. */
+    private static void longest() {
+        GrudgeTown x = Check.town("p;p");
+        Check.due("P4 it ends too early", Check.faultOf(x, 1, "y:" + "1+".repeat(119)), 240);
+        Check.law(x, "y:" + "1+".repeat(10) + "0+".repeat(107) + "11+7");
+        Check.due("P5 a law of 240 bytes", x.weighs(0, 1), 28);
+        Check.law(x, "y:0=1?9;".repeat(29) + "y:d=0?24");
+        Check.due("P5 a law of thirty clauses", x.weighs(0, 1), 24);
+        Check.feed(x, " ".repeat(237) + "p;p");
+        Check.due("P5 a town of 240 bytes", x.text(0), 2);
     }
 
     private static void town(GrudgeTown x, String text, int want) {
