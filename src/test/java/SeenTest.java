@@ -22,6 +22,8 @@ public final class SeenTest {
         }
         Check.due("P26 there are ten", x.seen(0, 1, false), -1);
         Check.due("P26 count", x.count(8), 10);
+        // Behind 3 sunsets and more nobody was in town, whatever it was.
+        Check.due("P27 of ten", x.weights(0, -1), 30);
         Check.due("P18 no act", x.count(10), 0);
     }
 
@@ -76,6 +78,9 @@ public final class SeenTest {
     }
 
     private static void whom() {
+        // Behind 4 sunsets the fifth is in town by 5 .. 30, all others always: none of five is left out.
+        GrudgeTown five = Check.town("p;p;p;p;p;go0a4w9;go0a1k1;go1a0k1;go0a2k1;go0a3k1");
+        Check.due("P28 the fifth of five", five.whom(0, 4), 4);
         GrudgeTown x = Check.town("p;p;p;p;gw9;go1a0w30;go1a2w5;go1a3w20");
         // Behind 15 sunsets the second is in town by 16 .. 30 of 1 .. 30: 15 and 15.
         Check.due("P28 half and half", x.whom(0, 15), 1);
