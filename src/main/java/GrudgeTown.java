@@ -608,7 +608,7 @@ public final class GrudgeTown {
         if (!at.isIn(person)) {
             return 0;
         }
-        if (left == 0) {
+        if (left <= 0) {
             return parts;
         }
         State then = apart[left - 1];
@@ -1154,19 +1154,17 @@ public final class GrudgeTown {
         }
 
         int heavyAgainst(int person) {
-            int found = 0;
-            for (int i = 0; i < PLACES; i++) {
-                if (weight[i] > 0 && against[i] == person) {
-                    found |= 1 << i;
-                }
-            }
-            return found;
+            return heavyWith(against, person);
         }
 
         int heavyOf(int person) {
+            return heavyWith(holder, person);
+        }
+
+        private int heavyWith(int[] who, int person) {
             int found = 0;
             for (int i = 0; i < PLACES; i++) {
-                if (weight[i] > 0 && holder[i] == person) {
+                if (weight[i] > 0 && who[i] == person) {
                     found |= 1 << i;
                 }
             }
