@@ -5,7 +5,7 @@ import java.util.NoSuchElementException;
 final class Check {
     /** Numbers far out of every bound, and some that wrap around when something is added or taken away. */
     static final int[] FAR = {Integer.MIN_VALUE, Integer.MIN_VALUE + 1, -1000001, -1000000, -65536, -256, -2,
-        256, 1000, 65536, 1000000, Integer.MAX_VALUE - 1000, Integer.MAX_VALUE - 1, Integer.MAX_VALUE};
+        1000, 65536, 1000000, Integer.MAX_VALUE - 1000, Integer.MAX_VALUE - 1, Integer.MAX_VALUE};
 
     private static int wrong = 0;
     private static int asked = 0;
