@@ -122,6 +122,11 @@ public final class EdgeActsTest {
         GrudgeTown y = Check.town("p;p;gw3;gw1;gw3;go1a0w9");
         y.days(1);
         Check.due("P11 a place that faded", y.offends(0, 1), 1);
+        for (int fade = 3; fade <= 9; fade++) {
+            GrudgeTown z = Check.town("sf" + fade + ";p;p;gw10;gw3;gw10;go1a0w10");
+            z.days(1);
+            Check.due("P11 a place that would be below 0 by " + fade, z.offends(0, 1), 1);
+        }
     }
 
     /** Twelve grudges: eleven against the second one, the last against the first. */

@@ -366,6 +366,9 @@ public final class EdgeApartTest {
             boolean fine = c >= 0 && c <= 999;
             Check.due("P32 shares(1, " + c + ")", x.shares(1, c), fine ? c : NONE);
         }
+        for (int c = -3; c <= -1; c++) {
+            Check.due("P32 shares(0, " + c + "), who has none", x.shares(0, c), NONE);
+        }
         for (int person = -2; person <= 6; person++) {
             int want = person == 0 ? 0 : person == 1 ? 999 : NONE;
             Check.due("P32 shares(" + person + ", 999)", x.shares(person, 999), want);
@@ -380,6 +383,9 @@ public final class EdgeApartTest {
         GrudgeTown none = Check.town("p;p");
         Check.due("P32 none", none.shares(0, 999), 0);
         Check.due("P32 none", none.shares(1, 0), 0);
+        GrudgeTown least = Check.town("p;p;gw1");
+        Check.due("P32 all of 1", least.shares(1, 999), 999);
+        Check.due("P32 nothing of 1", least.shares(0, 999), 0);
         for (int first = 1; first <= 30; first++) {
             for (int second = 1; second <= 30; second += 3) {
                 GrudgeTown x = Check.town("p;p;gw" + first + ";go1a0w" + second);

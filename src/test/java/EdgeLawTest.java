@@ -13,6 +13,7 @@ public final class EdgeLawTest {
         divisions();
         worthWithinBounds();
         clausesInOrder();
+        truths();
         letters();
         lettersOfGrudges();
         withoutLaw();
@@ -274,6 +275,34 @@ public final class EdgeLawTest {
         worth("y:1>2?9;y:8", 8);
         worth("y:1=0?9;y:8", 8);
         worth("y:0-1<0?9;y:8", 9);
+    }
+
+    /** & holds if both do, | if one does, & ahead of |, ! of its own unit alone. */
+    private static void truths() {
+        String[] units = {"1=2", "1=1"};
+        for (int bits = 0; bits < 8; bits++) {
+            boolean a = (bits & 1) != 0;
+            boolean b = (bits & 2) != 0;
+            boolean c = (bits & 4) != 0;
+            String first = units[bits & 1];
+            String second = units[bits >> 1 & 1];
+            String third = units[bits >> 2];
+            truth(first + "&" + second, a && b);
+            truth(first + "|" + second, a || b);
+            truth(first + "&" + second + "|" + third, a && b || c);
+            truth(first + "|" + second + "&" + third, a || b && c);
+            truth("(" + first + "|" + second + ")&" + third, (a || b) && c);
+            truth("!" + first + "&" + second, !a && b);
+            truth("!" + first + "|" + second, !a || b);
+            truth("!(" + first + "|" + second + ")", !(a || b));
+            truth(first + "&" + second + "&" + third, a && b && c);
+            truth(first + "|" + second + "|" + third, a || b || c);
+            truth("!!" + first + "&!" + second, a && !b);
+        }
+    }
+
+    private static void truth(String condition, boolean want) {
+        worth("y:" + condition + "?7;y:9", want ? 7 : 9);
     }
 
     /** t and l at 0 and 9, s at 0 and 1, d at 0 and 999. */

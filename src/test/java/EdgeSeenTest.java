@@ -205,6 +205,13 @@ public final class EdgeSeenTest {
         Check.due("P28 behind 16 the fourth, as the fifth", x.whom(0, 16), 3);
         // Behind 1: the third by 2 .. 30 (29 and 1), the others always (30 and 0).
         Check.due("P28 behind 1", x.whom(0, 1), 2);
+        // Asked once more it is the same: nothing is left of what was asked ahead.
+        Check.due("P28 behind 15 again", x.whom(0, 15), 2);
+        GrudgeTown y = Check.town("p;p;p;go0a1;go1a0w30k1;go1a2w8k1");
+        for (int i = 0; i < 4; i++) {
+            // Behind 16 the first by 16 .. 30 (15 and 15), the second and third by fewer or as the first.
+            Check.due("P28 behind 16, the " + i + "th time", y.whom(0, 16), 0);
+        }
         // Behind 30: the third never (0 and 30), the fourth and fifth by 30 alone (1 and 29).
         Check.due("P28 behind 30", x.whom(0, 30), 3);
     }

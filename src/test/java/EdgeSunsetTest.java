@@ -52,9 +52,12 @@ public final class EdgeSunsetTest {
         Check.due("P33 one of the hut does not hold", x.most(6), 3);
         Check.due("P7 burden", x.person(0, 5), 1);
         Check.due("P7 against", x.person(0, 3), 6);
+        Check.due("P7 in town", x.person(0, 2), 1);
+        Check.due("P7 in the hut", x.person(2, 2), 0);
         x.forgives(1);
         x.days(1);
         Check.due("P10 the hut's does not keep him", x.most(5), 2);
+        Check.due("P7 in the hut", x.person(0, 2), 0);
     }
 
     /** (ii): who goes is told by what holds then, not by what holds when others went. */
@@ -123,7 +126,10 @@ public final class EdgeSunsetTest {
         Check.due(call, x.grudge(0, 0), others == 0 ? NONE : Integer.numberOfTrailingZeros(others));
         Check.due("P10 how heavy by " + text, x.grudge(0, 2), others == 0 ? NONE : 1);
         Check.due("P10 its kind by " + text, x.grudge(0, 3), others == 0 ? NONE : 2);
-        Check.due("P19 heavy by " + text, x.log(0, 1), Integer.bitCount(kept) + (others == 0 ? 0 : 1));
+        int heavy = Integer.bitCount(kept) + (others == 0 ? 0 : 1);
+        Check.due("P19 heavy by " + text, x.log(0, 1), heavy);
+        Check.due("P11 the place without an heir is free by " + text, x.offends(went, against),
+                others == 0 ? 0 : heavy);
     }
 
     /** By numbers, each by itself: of one who went, of two who went, of one who stays. */

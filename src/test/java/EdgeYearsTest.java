@@ -7,6 +7,7 @@ public final class EdgeYearsTest {
         upToTheLastDay();
         seeds();
         mercyBounds();
+        forgivesTheLightest();
         nobodyInTown();
         noPlace();
         forNothing();
@@ -136,6 +137,24 @@ public final class EdgeYearsTest {
             y.mercy(8);
             y.years(1, seed);
             Check.due("P16 mercy 8, a draw of " + want, y.grudge(0, 2), 6);
+        }
+    }
+
+    /** 1 is heavy enough to be forgiven, in the first place and in the last. */
+    private static void forgivesTheLightest() {
+        for (int place = 0; place <= 11; place += 11) {
+            long seed = 0;
+            while (thirdDraw(seed) >= 2 || fourthDraw(seed) != place) {
+                seed++;
+            }
+            GrudgeTown x = Check.town("sf0k9;p;p;gw1;go1a0w30;gw30;gw30;gw30;gw30;gw30;gw30;gw30;gw30");
+            Check.law(x, "y:0");
+            x.offends(0, 1);
+            x.offends(1, 0);
+            Check.due("P16 1 ahead of it", x.grudge(place, 2), 1);
+            x.years(1, seed);
+            Check.due("P16 1 in place " + place + " is forgiven", x.grudge(place, 2), NONE);
+            Check.due("P16 the others are not", x.count(6), 11);
         }
     }
 
