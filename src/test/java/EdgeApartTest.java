@@ -429,6 +429,13 @@ public final class EdgeApartTest {
         for (int what = 0; what < then.length; what++) {
             Check.due("P33 one more, most(" + what + ")", y.most(what), then[what]);
         }
+        GrudgeTown least = Check.town("p;p;p;gw1;ga2w1");
+        Check.due("P33 1 is the heaviest", least.most(4), 0);
+        Check.due("P33 a burden of 1", least.most(0), 1);
+        least.forgives(0);
+        Check.due("P33 the other 1", least.most(4), 1);
+        least.forgives(1);
+        Check.due("P33 there is none", least.most(4), NONE);
         // Sour is by how many, not how heavy; hated by how heavy, not how many.
         GrudgeTown z = Check.town("sf0;p;p;p;go0a1w30;go1a0w1;go1a0w1;go2a1w1");
         Check.due("P33 hated", z.most(0), 1);
