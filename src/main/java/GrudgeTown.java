@@ -1557,29 +1557,27 @@ public final class GrudgeTown {
                     readUnit(depth + 1);
                     emit(SIGN + '!');
                 }
-            } else if (sign == '(') {
+                return;
+            }
+            if (sign == '(') {
                 if (opens(depth)) {
                     readCondition(depth + 1);
                     in.wants(')');
                 }
-            } else {
-                readComparison(depth);
+                return;
             }
-        }
-
-        private void readComparison(int depth) {
             if (!hasReadSum) {
                 readSum(depth);
             }
             hasReadSum = false;
             int relation = in.next();
-            if (!isRelation(relation)) {
+            if (isRelation(relation)) {
+                in.take();
+                readSum(depth);
+                emit(SIGN + relation);
+            } else {
                 in.wrong();
-                return;
             }
-            in.take();
-            readSum(depth);
-            emit(SIGN + relation);
         }
 
         private static boolean isRelation(int sign) {
