@@ -24,6 +24,7 @@ public final class EdgeApartTest {
         mostOfNobody();
         fadingAndLeaving();
         pairs();
+        lastPlace();
         nothingIsOtherwise();
         Check.finish();
     }
@@ -516,5 +517,34 @@ public final class EdgeApartTest {
         for (int what = 0; what < 5; what++) {
             Check.due("P17 no status by it", x.status(what), 0);
         }
+    }
+
+    /** All that is told of several grudges tells of the one in the twelfth place, too. */
+    private static void lastPlace() {
+        GrudgeTown x = Check.town("p;p;p;gw5;gw5;gw5;gw5;gw5;gw5;gw5;gw5;gw5;gw5");
+        Check.due("P11 the place ahead of the last", x.offends(0, 1), 10);
+        Check.law(x, "y:30");
+        Check.due("P33 who is under none", x.most(11), 4);
+        Check.due("P11 the last place", x.offends(2, 0), 11);
+        Check.due("P33 the heaviest", x.most(4), 11);
+        Check.due("P33 nobody will go", x.most(11), 0);
+        Check.due("P33 all hold", x.most(6), 4095);
+        Check.due("P33 together", x.most(8), 86);
+        Check.due("P33 none is free", x.most(9), 0);
+        Check.due("P33 the most hated", x.most(0), 1);
+        Check.due("P7 against him", x.person(2, 3), 1 << 11);
+        Check.due("P7 held by him", x.person(0, 4), 1023 | 1 << 11);
+        Check.due("P7 burden", x.person(2, 5), 30);
+        Check.due("P24 rid", x.rid(2), 1 << 11);
+        Check.due("P32 shares", x.shares(2, 86), 30);
+        // The second goes at the fifth sunset, the first at the sixth, who is hated by him alone at the seventh.
+        Check.due("P21 stays", x.stays(2), 6);
+        x.days(4);
+        Check.due("P33 the others fade", x.most(7), 1023);
+        x.days(1);
+        Check.due("P36 two are left", x.count(6), 2);
+        Check.due("P25 no treaty", x.treaty(0, 2), 0);
+        Check.due("P12 forgiven in the last place", x.forgives(11), 0);
+        Check.due("P33 the heaviest now", x.most(4), 10);
     }
 }

@@ -14,6 +14,7 @@ public final class EdgeGameTest {
         restsAsked();
         restsByGames();
         restsOfAll();
+        restsByForgiving();
         Check.finish();
     }
 
@@ -193,5 +194,23 @@ public final class EdgeGameTest {
             Check.due("P30 rests(0, 1, " + i + ")", x.rests(0, 1, i), want[i]);
         }
         Check.due("P30 no fifth", x.rests(0, 1, 4), NONE);
+    }
+
+    /** The first has more by forgiving: the second's offence weighs more then, and he who hates the first stays. */
+    private static void restsByForgiving() {
+        GrudgeTown x = Check.town("p;p;go1a0k1;go0a1w2");
+        Check.law(x, "y:m=0?30;y:10");
+        int[][] first = {{2, 10, 0}, {0, 8, -2}, {1, 20, 0}};
+        int[][] second = {{1, 7, 1}, {1, 7, 1}, {0, 18, 0}};
+        for (int i = 0; i < 3; i++) {
+            for (int j = 0; j < 3; j++) {
+                Check.due("P29 game(0, 1, " + i + ", " + j + ", 0)", x.game(0, 1, i, j, 0), first[i][j]);
+                Check.due("P29 game(0, 1, " + i + ", " + j + ", 1)", x.game(0, 1, i, j, 1), second[i][j]);
+            }
+        }
+        // Without 2 to choose, the first would rest at 0 and the second at 1.
+        Check.due("P30 how many", x.rests(0, 1, NONE), 1);
+        Check.due("P30 the first", x.rests(0, 1, 0), 21);
+        Check.due("P30 no second", x.rests(0, 1, 1), NONE);
     }
 }

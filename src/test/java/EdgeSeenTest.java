@@ -13,6 +13,7 @@ public final class EdgeSeenTest {
         whomAsked();
         whomBySums();
         whomOfSeveral();
+        whomAgain();
         Check.finish();
     }
 
@@ -214,5 +215,23 @@ public final class EdgeSeenTest {
         }
         // Behind 30: the third never (0 and 30), the fourth and fifth by 30 alone (1 and 29).
         Check.due("P28 behind 30", x.whom(0, 30), 3);
+    }
+
+    /** Each person of five is looked for as often as one asks: nothing is left of what was asked ahead. */
+    private static void whomAgain() {
+        for (int person = 0; person < 5; person++) {
+            int one = (person + 1) % 5;
+            int other = (person + 2) % 5;
+            StringBuilder town = new StringBuilder("p;p;p;p;p;go" + one + "a" + person);
+            for (int i = 0; i < 5; i++) {
+                if (i != person) {
+                    town.append(";go").append(i == one ? other : one).append("a").append(i).append("k1");
+                }
+            }
+            GrudgeTown x = Check.town(town.toString());
+            for (int i = 0; i < 4; i++) {
+                Check.due("P28 " + person + " behind 15, the " + i + "th time", x.whom(0, 15), person);
+            }
+        }
     }
 }

@@ -19,6 +19,7 @@ public final class UndoneLogTest {
         undoesAndGoesOn();
         undoesPlainDays();
         imageKeepsAll();
+        imageKeepsWhoWent();
         Check.finish();
     }
 
@@ -109,5 +110,25 @@ public final class UndoneLogTest {
         y.days(60);
         y.back();
         sameLog("P35 P19 back to one undone", y, at(100));
+    }
+
+    /** One comes back each day and goes at its sunset, so that every row of the image says who went. */
+    private static void imageKeepsWhoWent() {
+        GrudgeTown x = Check.town("sf9k99;pt0;p;p;gk1;go1a0k1");
+        x.days(60);
+        for (int day = 60; day < 120; day++) {
+            x.offends(2, 0);
+            x.days(1);
+        }
+        x.image();
+        x.days(60);
+        x.days(60);
+        Check.due("P19 nobody went of late", x.log(59, 0), 0);
+        x.back();
+        for (int i = 0; i < 60; i++) {
+            Check.due("P35 P19 log(" + i + ", 0)", x.log(i, 0), 4);
+            Check.due("P35 P19 log(" + i + ", 1)", x.log(i, 1), 2);
+            Check.due("P35 P19 log(" + i + ", 2)", x.log(i, 2), 3);
+        }
     }
 }
