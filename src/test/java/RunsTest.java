@@ -14,7 +14,7 @@ import java.util.Map;
 
 /**
  * Promises 1 to 36: the calls under src/test/runs, each with the answer that is due. The answers were not taken from
- * the class but from a model in another language, by another reader of the document.
+ * the class but from a model in another language (NOTES.md tells how it came about).
  */
 public final class RunsTest {
     private static final Path RUNS = Paths.get("src", "test", "runs");
